@@ -196,6 +196,11 @@ final class ChecksTest {
         }
         Due.refused(x, Due.NO_SUCH, "odd of 9 in 8 bits", () -> x.odd(0, 0, 9, 10));
         Due.refused(x, Due.NO_SUCH, "odd of 1 in no bit", () -> x.odd(2, 0, 1, 1));
+        x.copy(1, 3);
+        x.cut(3, 3);
+        x.make(3, 1, 1);
+        Due.is("odd of 23 in 24 bits", x.odd(3, 3, 23, 3), 3);
+        Due.refused(x, Due.NO_SUCH, "odd of 25 in 24 bits", () -> x.odd(3, 3, 25, 1));
         Due.refused(x, Due.STATE, "odd, 402 in all", () -> x.odd(0, 0, 7, 3));
         Due.askUpTo(x, 0, 386);
         Due.is("odd, 400 in all", x.odd(0, 0, 7, 2), 2);

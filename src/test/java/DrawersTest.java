@@ -41,6 +41,12 @@ final class DrawersTest {
         Due.no("another upper half", x.isSameWay(0, 1));
         Due.no("a lower half below 0 is no upper one", x.isSameWay(1, 3));
         Due.no("another lower half", x.isSameWay(0, 4));
+        for (int bit = 0; bit < 32; bit++) {
+            x.make(1, 1 ^ 1 << bit, -2);
+            Due.no("the bit " + bit + " of the upper half is another one", x.isSameWay(0, 1));
+            x.make(1, 1, -2 ^ 1 << bit);
+            Due.no("the bit " + bit + " of the lower half is another one", x.isSameWay(0, 1));
+        }
     }
 
     private static void split() {

@@ -35,6 +35,14 @@ final class WholeTest {
         Due.is("meanByte of 0, 255, 255", x.meanByte(0), 510.0 / 3.0);
         x.cut(0, 2);
         Due.is("meanByte of 0, 255", x.meanByte(0), 127.5);
+        x.flip(0, 0);
+        Due.is("meanByte of 1, 255", x.meanByte(0), 128.0);
+        Due.fill(x, 1, 120);
+        double sum = 0;
+        for (byte sign : Due.bytesOf(x, 1)) {
+            sum += sign & 255;
+        }
+        Due.is("meanByte of a full text", x.meanByte(1), sum / 120.0);
         x.cut(0, 0);
         Due.refused(x, Due.ARITHMETIC, "meanByte after a cut of all", () -> x.meanByte(0));
     }
