@@ -291,11 +291,7 @@ public final class Checkdraw {
     }
 
     public int longs(int drawer, int many) throws IndexOutOfBoundsException, IllegalArgumentException, UnsupportedOperationException, IllegalStateException {
-        Drawer drawn = drawerOf(drawer);
-        needWithin(many, 1, MOST_DRAWN);
-        needUnsplit(drawn);
-        needAsks(drawn, many);
-        spare.comeBy(drawn.way);
+        Drawer drawn = drawerWithTwin(drawer, many);
         int same = 0;
         for (int i = 0; i < many; i++) {
             if (drawn.askLong() == spare.askLong()) {
@@ -306,11 +302,7 @@ public final class Checkdraw {
     }
 
     public int truths(int drawer, int many) throws IndexOutOfBoundsException, IllegalArgumentException, UnsupportedOperationException, IllegalStateException {
-        Drawer drawn = drawerOf(drawer);
-        needWithin(many, 1, MOST_DRAWN);
-        needUnsplit(drawn);
-        needAsks(drawn, many);
-        spare.comeBy(drawn.way);
+        Drawer drawn = drawerWithTwin(drawer, many);
         int same = 0;
         for (int i = 0; i < many; i++) {
             if (drawn.askTruth() == spare.askTruth()) {
@@ -318,6 +310,16 @@ public final class Checkdraw {
             }
         }
         return same;
+    }
+
+    /** The drawer that may be asked so often; the spare one is another one of its way then. */
+    private Drawer drawerWithTwin(int drawer, int many) {
+        Drawer drawn = drawerOf(drawer);
+        needWithin(many, 1, MOST_DRAWN);
+        needUnsplit(drawn);
+        needAsks(drawn, many);
+        spare.comeBy(drawn.way);
+        return drawn;
     }
 
     public int shuffle(int text, int drawer) throws IndexOutOfBoundsException, UnsupportedOperationException, IllegalStateException {
