@@ -2,27 +2,23 @@ import java.util.function.Supplier;
 
 /** What the tests ask with: each answer that is not due is printed, and ends the test with exit code 1. */
 final class Due {
-    static final Class<? extends RuntimeException> INDEX = IndexOutOfBoundsException.class;
-    static final Class<? extends RuntimeException> ARGUMENT = IllegalArgumentException.class;
-    static final Class<? extends RuntimeException> STATE = IllegalStateException.class;
-    static final Class<? extends RuntimeException> UNSUPPORTED = UnsupportedOperationException.class;
-    static final Class<? extends RuntimeException> NO_SUCH = java.util.NoSuchElementException.class;
-    static final Class<? extends RuntimeException> ARITHMETIC = ArithmeticException.class;
-
-    static final int[] NO_TEXT = {-1, 6, Integer.MIN_VALUE, Integer.MAX_VALUE};
-    static final int[] NO_STORE = {-1, 4, Integer.MIN_VALUE, Integer.MAX_VALUE};
-
+    private static String about = "";
     private static int wrong = 0;
     private static int asked = 0;
 
     private Due() {
     }
 
+    /** What the next answers are about; it is printed with each of them that is not due. */
+    static void about(String text) {
+        about = text;
+    }
+
     static void is(String call, Object got, Object want) {
         asked++;
         if (!got.equals(want)) {
             wrong++;
-            System.out.println(call + " answered " + got + ", due is " + want);
+            System.out.println((about.isEmpty() ? "" : about + "\n  ") + call + " answered " + got + ", due is " + want);
         }
     }
 
@@ -34,13 +30,7 @@ final class Due {
         is(call, got, false);
     }
 
-    /** The exception is thrown, just of this class, and what can be told of the house is as it was. */
-    static void refused(Checkdraw house, Class<? extends RuntimeException> kind, String call, Supplier<?> asking) {
-        long before = house.checksum();
-        is(call, outcome(asking), "throws." + kind.getSimpleName());
-        is(call + " and the checksum after it", house.checksum(), before);
-    }
-
+    /** What a call answers, or the name of what it throws. */
     static Object outcome(Supplier<?> asking) {
         try {
             return asking.get();
@@ -67,9 +57,22 @@ final class Due {
 
     /** Fills a text up to so many bytes, unlike ones. */
     static void fill(Checkdraw house, int text, int many) {
-        for (int i = house.length(text); i < many; i++) {
-            house.add(text, i * 37 + 11 & 255);
+        for (int i = house.length(text); i < many; i += 8) {
+            house.addMore(text, Math.min(8, many - i), sign(i), sign(i + 1), sign(i + 2), sign(i + 3), sign(i + 4), sign(i + 5), sign(i + 6), sign(i + 7));
         }
+    }
+
+    /** The bytes of a text that was filled. */
+    static byte[] filled(int many) {
+        byte[] bytes = new byte[many];
+        for (int i = 0; i < many; i++) {
+            bytes[i] = (byte) sign(i);
+        }
+        return bytes;
+    }
+
+    private static int sign(int place) {
+        return place * 37 + 11 & 255;
     }
 
     static byte[] bytesOf(Checkdraw house, int text) {
@@ -88,8 +91,8 @@ final class Due {
 
     /** Asks a drawer until it was asked so often. */
     static void askUpTo(Checkdraw house, int drawer, int many) {
-        for (int i = house.asked(drawer); i < many; i++) {
-            house.below(drawer, 10, 1);
+        for (int i = house.asked(drawer); i < many; i += 50) {
+            house.below(drawer, 10, Math.min(50, many - i));
         }
     }
 }

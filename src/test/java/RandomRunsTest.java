@@ -15,6 +15,7 @@ final class RandomRunsTest {
     private final int keys;
     private final int seeds;
     private final int wrongOf;
+    private int calls = 0;
 
     private RandomRunsTest(int seed) {
         random = new Random(seed);
@@ -30,14 +31,14 @@ final class RandomRunsTest {
     public static void main(String[] args) {
         for (int run = 0; run < RUNS; run++) {
             RandomRunsTest test = new RandomRunsTest(run);
-            for (int call = 0; call < CALLS; call++) {
-                test.step(run, call);
+            while (test.calls < CALLS) {
+                test.step(run);
             }
         }
         Due.end("RandomRunsTest");
     }
 
-    private void step(int run, int call) {
+    private void step(int run) {
         int total = 0;
         for (int weight : weights) {
             total += weight;
@@ -48,7 +49,7 @@ final class RandomRunsTest {
             left -= weights[operation];
             operation++;
         }
-        String where = "run " + run + ", call " + call + ", operation " + operation;
+        String where = "run " + run + ", call " + (calls + 1) + ", operation " + operation;
         if (operation < 14) {
             onTexts(where, operation);
         } else if (operation < 26) {
@@ -56,12 +57,17 @@ final class RandomRunsTest {
         } else {
             onStores(where, operation);
         }
-        if (call % 16 == 0) {
+        if (calls % 16 == 0) {
             both(where + ", checksum", house::checksum, model::checksum);
         }
     }
 
+    /** A house is not asked more often than is promised, though a step may come to two calls. */
     private void both(String where, Supplier<?> got, Supplier<?> want) {
+        if (calls == CALLS) {
+            return;
+        }
+        calls++;
         Due.is(where, Due.outcome(got), Due.outcome(want));
     }
 
