@@ -182,7 +182,14 @@ final class DrawerEdges {
         Edge.Scene last = two(399).and(x -> x.below(0, 5, 1));
         Edge.answers(last, "isSameWay of two whose last asking is one", x -> x.below(1, 5, 1) + " " + x.isSameWay(0, 1), "1 true");
         Edge.answers(last, "isSameWay of two whose last asking has other bounds", x -> x.below(1, 6, 1) + " " + x.isSameWay(0, 1), "1 false");
+        Edge.Scene betweenLast = two(399).and(x -> x.between(0, -5, 5, 1));
+        Edge.answers(betweenLast, "isSameWay of two whose last asking is between the same", x -> x.between(1, -5, 5, 1) + " " + x.isSameWay(0, 1), "1 true");
+        Edge.answers(betweenLast, "isSameWay of two whose last asking has another lower bound", x -> x.between(1, -4, 5, 1) + " " + x.isSameWay(0, 1), "1 false");
+        Edge.answers(betweenLast, "isSameWay of two whose last asking has another upper bound", x -> x.between(1, -5, 6, 1) + " " + x.isSameWay(0, 1), "1 false");
+        Edge.answers(betweenLast.and(x -> x.again(0, 2)), "isSameWay of it and one made anew", x -> x.isSameWay(2, 0), true);
         Edge.answers(last, "isSameWay of two whose last asking is another one", x -> x.between(1, 0, 5, 1) + " " + x.isSameWay(0, 1), "1 false");
+        Edge.Scene unlikeFirst = two(0).and(x -> x.below(0, 5, 1)).and(x -> x.below(1, 6, 1));
+        Edge.answers(unlikeFirst.and(x -> x.below(0, 5, 9)).and(x -> x.below(1, 5, 9)), "isSameWay of two whose first asking has other bounds", x -> x.isSameWay(0, 1), false);
     }
 
     private static void alike() {
@@ -351,7 +358,8 @@ final class DrawerEdges {
         Edge.range(all, Edge.INDEX, 0, 5, "shuffle of the text", (x, n) -> x.shuffle(n, 0));
         Edge.range(all, Edge.INDEX, 0, 5, "shuffle by the drawer", (x, n) -> x.shuffle(0, n));
         Edge.refuses(Edge.bytes(0, 3).and(one(3)), Edge.INDEX, "shuffle by one that is not there", x -> x.shuffle(0, 1));
-        Document.says(27, "for each place but the last one the drawer is asked for a number from the place up to how many bytes there are, without that", "the text stays as it was", "Returns how many places have then what they had.");
+        Document.says(27, "for each place but the last one the drawer is asked for a number from the place up to how many bytes there are, without that",
+            "the text stays as it was", "Returns how many places have then what they had.");
         for (int many : new int[] {0, 1, 2, 3, 119, 120}) {
             String asked = " " + Math.max(0, many - 1);
             Edge.answers(Edge.bytes(0, many).and(one(0)), "shuffle of " + many + " bytes", x -> x.shuffle(0, 0) + " " + x.asked(0), many + asked);
