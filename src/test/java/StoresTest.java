@@ -7,6 +7,7 @@ final class StoresTest {
         put();
         remove();
         sortedRow();
+        allDrawnAlike();
         partAndMerge();
         storeCheck();
         Due.end("StoresTest");
@@ -82,6 +83,38 @@ final class StoresTest {
             }
             Due.yes("isSound", x.isSound());
         }
+    }
+
+    /** The same, though one int was drawn for all keys, by drawers that came by one way. */
+    private static void allDrawnAlike() {
+        for (int step : new int[] {1, 39, 3, 17}) {
+            Checkdraw x = new Checkdraw();
+            for (int i = 0; i < 40; i++) {
+                x.make(0, 3, 3);
+                Due.is("put of a key that comes", x.put(0, i * step % 40, i * step % 40, 0), -1);
+            }
+            inOrder(x, 0, 0, 40);
+            Due.is("part", x.part(0, 25, 1), 15);
+            inOrder(x, 0, 0, 25);
+            inOrder(x, 1, 25, 40);
+            Due.is("merge", x.merge(0, 1), 40);
+            inOrder(x, 0, 0, 40);
+            for (int i = 0; i < 20; i++) {
+                Due.is("remove of " + i, x.remove(0, i), i);
+            }
+            inOrder(x, 0, 20, 40);
+        }
+    }
+
+    /** The keys of a store are all those from one to another one, the latter not counted, each with itself. */
+    private static void inOrder(Checkdraw x, int store, int from, int to) {
+        Due.is("size", x.size(store), to - from);
+        for (int i = from; i < to; i++) {
+            Due.is("keyAt(" + store + ", " + (i - from) + ")", x.keyAt(store, i - from), i);
+            Due.is("rank(" + store + ", " + i + ")", x.rank(store, i), i - from);
+        }
+        Due.is("sum of all", x.sum(store, from, to), (to - from) * (from + to - 1) / 2);
+        Due.yes("isSound", x.isSound());
     }
 
     private static void partAndMerge() {
